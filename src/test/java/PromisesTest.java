@@ -126,6 +126,7 @@ public final class PromisesTest {
         due(5, "7", x.told(0, 1, 0), 7);
         due(5, "n 0", x.type(0x31L, 0), BAD);
         due(5, "n 9", x.type(0x31L, 9), BAD);
+        due(5, "n 9, all bytes fine", x.type(0x3131313131313131L, 9), BAD);
         due(5, "n least", x.type(0x31L, LEAST), BAD);
         due(5, "byte 31", x.type(0x1FL, 1), BAD);
         due(5, "byte 127", x.type(0x7FL, 1), BAD);
@@ -498,6 +499,7 @@ public final class PromisesTest {
         due(20, "cries", x.day(2), 5);
         x.of(1, 2, 119);
         due(20, "cries behind the last minute are none", x.day(2), 4);
+        due(20, "wasted by the first buyer", lured(3).day(1), 1);
         due(20, "what", x.day(3), BAD);
         due(20, "what", x.day(-1), BAD);
     }
@@ -572,6 +574,12 @@ public final class PromisesTest {
         come(x, 0, 3, 1, "0", "4");
         due(23, "0 and 9 are like far", x.fresh(1, 1, 0, -1), 4);
         due(23, "the first", x.fresh(1, 1, 0, 0), 0);
+        StreetCries y = with(0, 3, 1, "0", "505");
+        int[] notes = {0, 9, 0};
+        for (int i = 0; i < 3; i++) {
+            due(23, "the one that is farthest, note " + i, y.fresh(3, 1, 0, i), notes[i]);
+        }
+        due(23, "the one that is farthest", y.fresh(3, 1, 0, -1), 19);
         x.bylaw(2, true);
         due(23, "by no bylaw", x.fresh(1, 9, 12, 0), 9);
         due(23, "none", x.fresh(1, 8, 12, 0), NONE);
@@ -613,6 +621,16 @@ public final class PromisesTest {
         due(25, "in place of those in force", x.quiet(0, 2), 2);
         due(25, "nothing has changed", x.count(3), 2);
         due(25, "999", x.quiet(0, 999), 0);
+        StreetCries y = with(0, 3, 1, "0", "5");
+        y.of(0, 2, 60);
+        come(y, 1, 3, 1, "1", "5");
+        y.noise(1, 0);
+        come(y, 2, 9, 1, "24", "5");
+        come(y, 3, 1, 1, "20", "5");
+        come(y, 3, 9, 1, "10", "5");
+        due(25, "all four", y.quiet(0, 0), 15);
+        due(25, "one may stay", y.quiet(0, 1), 7);
+        due(25, "three may stay", y.quiet(0, 3), 1);
         due(25, "1000", x.quiet(0, 1000), BAD);
         due(25, "-1", x.quiet(0, -1), BAD);
         due(25, "corner", x.quiet(25, 0), BAD);
@@ -633,6 +651,14 @@ public final class PromisesTest {
         due(26, "in force", x.costs(2, 0), 0);
         x.of(0, 2, 60);
         due(26, "above 0", x.costs(0, 0), 1);
+        x.of(0, 2, 5);
+        x.of(1, 2, 61);
+        x.bylaw(2, false);
+        x.bylaw(0, true);
+        x.of(1, 2, 4);
+        due(26, "with that one, too", x.costs(2, 0), -1);
+        x.of(0, 2, 60);
+        due(26, "too, not in place of", x.costs(2, 0), 0);
         due(26, "bylaw", x.costs(4, 0), -100001);
         due(26, "bylaw", x.costs(-1, 0), -100001);
         due(26, "seller", x.costs(0, 2), -100001);
@@ -757,7 +783,8 @@ public final class PromisesTest {
         x.of(0, 1, 9);
         x.of(0, 2, 50);
         x.of(0, 3, 5);
-        x.seller(3, 3, 3);
+        come(x, 3, 3, 3, "8,9", "12");
+        x.of(1, 2, 7);
         x.buyer(3, 3, 3, 3);
         x.noise(7, 0);
         x.likeness(1);
@@ -804,6 +831,61 @@ public final class PromisesTest {
         due(33, "with a tune of its own", x.told(1, 1, 0), 5);
         due(33, "with a round of its own", x.told(1, 0, 0), 0);
         due(33, "begins anew", x.of(1, 2, 9), 0);
+    }
+
+    /** All places taken: what a call reads stays within them, and nobody is left out. */
+    static void fullTown() {
+        StreetCries x = new StreetCries();
+        for (int s = 0; s < 6; s++) {
+            come(x, s % 2, 3, 1, "0,0,0,0,0,0,0,0,0,0,0,0", "555555");
+            x.of(s, 2, 12 * s % 60);
+        }
+        for (int b = 0; b < 12; b++) {
+            x.buyer(0, b % 2, b < 11 ? 1 : 0, 0);
+            x.window(0, b, b % 3 == 0);
+        }
+        due(12, "heard", x.heard(0, 0), 33);
+        due(18, "the last buyer's minute", x.fate(11, 1), 1);
+        due(19, "of 0", x.brings(0), 6);
+        due(19, "of 1", x.brings(1), 0);
+        due(19, "of 5", x.brings(5), 6);
+        due(20, "buy", x.day(0), 12);
+        due(20, "wasted", x.day(1), 0);
+        due(20, "cries", x.day(2), 72);
+        due(21, "best", x.best(5, 2), 6);
+        due(22, "rests: 5 at 0 or 10, 4 anywhere", x.rests(4, 5, 0), 12);
+        due(23, "fresh", x.fresh(3, 9, 0, -1), 27);
+        due(24, "loudness", x.loudness(0), 72);
+        due(25, "quiet", x.quiet(0, 72), 0);
+        due(25, "no bylaw helps", x.quiet(0, 71), NONE);
+        due(26, "costs", x.costs(0, 5), 0);
+        due(28, "went", x.went(5, 0), 0);
+        due(30, "dies", x.dies(5, 0), 5);
+        due(31, "clock", x.clock(5, 0), 12);
+        due(32, "image", x.image(), 1);
+        due(33, "restore", x.restore(), 1);
+        due(33, "day", x.day(0), 12);
+        x.sheet(0, 0, 24);
+        due(34, "joined", x.hands(0, 0, 0, 4, 6, 5), 0);
+        due(34, "whose", x.hands(0, 0, 0, 4, 6, -1), 0);
+        due(35, "came", x.came(0, 0, 0, 4, 5, 3), NONE);
+    }
+
+    /** Those who went by a restore are not seen again. */
+    static void nobodyIsLeftBehind() {
+        StreetCries x = with(1, 9, 1, "24", "9");
+        x.image();
+        come(x, 0, 9, 5, "0,1", "0");
+        x.buyer(0, 0, 0, 5);
+        x.window(0, 100, true);
+        x.restore();
+        due(33, "heard", x.heard(0, 0), 1);
+        due(33, "cries", x.day(2), 1);
+        due(33, "loudness", x.loudness(0), 1);
+        due(33, "went", x.went(0, 0), 120);
+        x.buyer(0, 0, 0, 5);
+        due(33, "who wants what nobody sells", x.fate(0, 0), NONE);
+        due(33, "nor comes down", x.fate(0, 2), 0);
     }
 
     static void fill(StreetCries x, int sheet, int lane, int... items) {
@@ -1025,6 +1107,8 @@ public final class PromisesTest {
         dies();
         clock();
         image();
+        fullTown();
+        nobodyIsLeftBehind();
         hands();
         came();
         sheet();
