@@ -251,7 +251,8 @@ public final class StreetCries {
         if (!now.hasSeller(one) || !now.hasSeller(other) || one == other || !isWithin(what, 0, 2)) {
             return BAD;
         }
-        return trial.restsOfTwo(now, one, other, what);
+        trial.tryAllPairs(now, one, other);
+        return trial.restsTold(what);
     }
 
     public int fresh(int n, int loud, int carry, int i) {
@@ -939,9 +940,19 @@ public final class StreetCries {
             return what == 0 ? bestMinute : bestWay;
         }
 
-        int restsOfTwo(Town now, int one, int other, int what) {
+        void tryAllPairs(Town now, int one, int other) {
             town.copyFrom(now);
-            tryAllPairs(one, other);
+            for (int pair = 0; pair < REST_CHOICES * REST_CHOICES; pair++) {
+                town.sellers[one].begin = REST_STEP * (pair / REST_CHOICES);
+                town.sellers[other].begin = REST_STEP * (pair % REST_CHOICES);
+                day.spend(town);
+                toOne[pair] = day.broughtTo(one);
+                toOther[pair] = day.broughtTo(other);
+            }
+        }
+
+        /** Of the pairs that were tried last. */
+        int restsTold(int what) {
             int rests = 0;
             int first = NONE;
             for (int pair = 0; pair < REST_CHOICES * REST_CHOICES; pair++) {
@@ -959,16 +970,6 @@ public final class StreetCries {
                 return NONE;
             }
             return REST_STEP * (what == 1 ? first / REST_CHOICES : first % REST_CHOICES);
-        }
-
-        private void tryAllPairs(int one, int other) {
-            for (int pair = 0; pair < REST_CHOICES * REST_CHOICES; pair++) {
-                town.sellers[one].begin = REST_STEP * (pair / REST_CHOICES);
-                town.sellers[other].begin = REST_STEP * (pair % REST_CHOICES);
-                day.spend(town);
-                toOne[pair] = day.broughtTo(one);
-                toOther[pair] = day.broughtTo(other);
-            }
         }
 
         private boolean isRest(int pair) {
