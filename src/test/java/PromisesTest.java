@@ -1,41 +1,5 @@
 /** Each promise by itself: answers worked out by hand from the document, edges and wrong inputs. */
-public final class PromisesTest {
-    static final int BAD = -1, NOT = -2, FULL = -3, NONE = -4, NULL = -11, CAST = -12, INDEX = -13, SIZE = -14;
-    static final int LEAST = Integer.MIN_VALUE, MOST = Integer.MAX_VALUE;
-
-    static int wrong = 0;
-    static int asked = 0;
-
-    static void due(int promise, String what, int got, int want) {
-        asked++;
-        if (got != want) {
-            wrong++;
-            System.out.println("promise " + promise + ": " + what + " answered " + got + ", due is " + want);
-        }
-    }
-
-    static int write(StreetCries x, String text) {
-        int count = 0;
-        for (int i = 0; i < text.length(); i++) {
-            count = x.type(text.charAt(i), 1);
-        }
-        return count;
-    }
-
-    static StreetCries with(int kind, int loud, int pace, String round, String tune) {
-        StreetCries x = new StreetCries();
-        come(x, kind, loud, pace, round, tune);
-        return x;
-    }
-
-    static int come(StreetCries x, int kind, int loud, int pace, String round, String tune) {
-        int s = x.seller(kind, loud, pace);
-        write(x, round);
-        x.round(s);
-        write(x, tune);
-        x.tune(s);
-        return s;
-    }
+public final class PromisesTest extends Checks {
 
     static void newObject() {
         StreetCries x = new StreetCries();
@@ -888,13 +852,6 @@ public final class PromisesTest {
         due(33, "nor comes down", x.fate(0, 2), 0);
     }
 
-    static void fill(StreetCries x, int sheet, int lane, int... items) {
-        x.sheet(sheet, lane, items.length);
-        for (int i = 0; i < items.length; i++) {
-            x.item(sheet, lane, i, items[i]);
-        }
-    }
-
     static void hands() {
         StreetCries x = new StreetCries();
         fill(x, 0, 0, 7, 1, 2, 1, 3, 4, 3, 4, 3);
@@ -1115,9 +1072,6 @@ public final class PromisesTest {
         drop();
         item();
         copy();
-        System.out.println(asked + " answers, " + wrong + " wrong");
-        if (wrong != 0) {
-            System.exit(1);
-        }
+        end();
     }
 }
