@@ -421,8 +421,10 @@ public final class TownEdgesTest extends Checks {
         x.round(0);
         write(x, "8");
         x.tune(0);
-        due(9, "a shorter round", x.told(0, 0, 1), NONE);
-        due(9, "a shorter tune", x.told(0, 1, 1), NONE);
+        for (int i = 1; i < 13; i++) {
+            due(9, "a shorter round, corner " + i, x.told(0, 0, i), NONE);
+            due(9, "a shorter tune, note " + i, x.told(0, 1, i), NONE);
+        }
     }
 
     // ---- promise 10
